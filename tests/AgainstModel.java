@@ -47,7 +47,7 @@ public final class AgainstModel {
         for (int i = 0; i < kin; i++) {
             ask("kin", texts.upTo(10), texts.upTo(20));
         }
-        while (run.size() < CALLS - 40) {
+        while (run.size() < CALLS - 70) {
             if (texts.upTo(25) == 0) {
                 feedText(texts.text());
             } else if (number % 3 == 0 && texts.upTo(3) == 0) {
@@ -108,8 +108,12 @@ public final class AgainstModel {
         int got = ask("text");
         ask("fault", 0);
         ask("fault", 1);
-        if (got >= 0 && texts.upTo(2) == 0) {
+        if (got >= 0 && texts.upTo(4) > 0) {
             ask("by", got);
+            for (int kin = 0; kin < 6; kin++) {
+                ask("of", kin, 4);
+                ask("of", kin, 5);
+            }
         }
         if (got >= 0 && texts.upTo(2) == 0) {
             ask("played", got);

@@ -814,6 +814,18 @@ public final class PromisesOfSteps {
         sum("if 1>2 and 1<2 or 1<2 then 3 else 4 end", 3);
         sum("if 1>2 or 1>2 then 3 else 4 end", 4);
         sum("if 1<2 and 1<2 and 1>2 then 3 else 4 end", 4);
+        String[] so = {"1<2", "1<=2", "2>1", "2>=1", "1=1", "1#2", "not 1#1", "not not 1<2"};
+        String[] notSo = {"2<2", "2<=1", "2>2", "1>=2", "1=2", "2#2", "not 1#2", "not 1=1"};
+        for (int i = 0; i < so.length; i++) {
+            for (int k = 0; k < so.length; k++) {
+                sum("if " + so[i] + " and " + so[k] + " then 3 else 4 end", 3);
+                sum("if " + so[i] + " and " + notSo[k] + " then 3 else 4 end", 4);
+                sum("if " + notSo[i] + " or " + so[k] + " then 3 else 4 end", 3);
+                sum("if " + notSo[i] + " or " + notSo[k] + " then 3 else 4 end", 4);
+                sum("if " + so[i] + " or " + so[k] + " and " + notSo[i] + " then 3 else 4 end", 3);
+                sum("if not " + so[i] + " or " + so[k] + " then 3 else 4 end", 3);
+            }
+        }
         sum("1 + if 1<2 then if 1>2 then 3 else 4 end * 2 else 5 end * 3", 25);
         sum("if 1>2 then 3 else if 1>2 then 3 else 4 end end + 1", 5);
         StringBuilder many = new StringBuilder("0");

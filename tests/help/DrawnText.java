@@ -25,10 +25,10 @@ final class DrawnText {
             int sort = upTo(many > 10 ? 24 : 10);
             if (sort == 0 && (twice || !reaches)) {
                 reaches = true;
-                text.append("reaches ").append(sum(true, 3 + upTo(3)));
+                text.append("reaches ").append(law(true));
             } else if (sort == 1 && (twice || !bears)) {
                 bears = true;
-                text.append("bears ").append(sum(false, 3 + upTo(3)));
+                text.append("bears ").append(law(false));
             } else {
                 text.append(deed());
             }
@@ -41,6 +41,16 @@ final class DrawnText {
             mutate(text);
         }
         return text.length() > 300 ? text.substring(0, 300) : text.toString();
+    }
+
+    /** Mostly such as isn't cut off at 10 or 99, so that what it says is seen. */
+    private String law(boolean reaches) {
+        switch (upTo(4)) {
+            case 0: return sum(reaches, 3 + upTo(3));
+            case 1: return "if " + either(reaches, upTo(3)) + " then " + upTo(5) + "+" + single(reaches, 1) + "else 9-" + single(reaches, 0) + " end";
+            case 2: return "5+(" + sum(reaches, 2) + ")/" + (1 + upTo(20));
+            default: return "if " + either(reaches, upTo(2)) + " then " + upTo(5) + " else " + (5 + upTo(5)) + " end";
+        }
     }
 
     private String deed() {
@@ -95,7 +105,7 @@ final class DrawnText {
 
     private String either(boolean reaches, int depth) {
         StringBuilder either = new StringBuilder(ask(reaches, depth));
-        while (upTo(3) == 0) {
+        while (upTo(2) == 0) {
             either.append(one(" or ", " and ")).append(ask(reaches, depth));
         }
         return either.toString();
