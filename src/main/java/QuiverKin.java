@@ -899,7 +899,7 @@ public final class QuiverKin {
             count = other.count;
             for (int i = 0; i < first.length; i++) {
                 first[i] = get(other.first, i);
-                second[i] = get(other.second, i);
+                put(second, i, get(other.second, i));
             }
         }
     }
