@@ -1,3 +1,5 @@
+import java.util.List;
+
 /** Counts the answers that are not the ones that are due. */
 final class Due {
     private int promise;
@@ -18,6 +20,18 @@ final class Due {
 
     void is(String what, boolean got, boolean want) {
         is(what, got ? 1 : 0, want ? 1 : 0);
+    }
+
+    /** Two rows of answers. */
+    void alike(String what, List<String> got, List<String> want) {
+        is(what + ": how many answers", got.size(), want.size());
+        for (int i = 0; i < got.size() && i < want.size(); i++) {
+            asked++;
+            if (!got.get(i).equals(want.get(i))) {
+                wrong++;
+                System.out.println("promise " + promise + ": " + what + ": " + got.get(i) + ", due is " + want.get(i));
+            }
+        }
     }
 
     void end(String test) {
