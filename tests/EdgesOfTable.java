@@ -29,6 +29,7 @@ public final class EdgesOfTable {
         dinnerOfOthers();
         dinnersBeyond();
         dinnerAtLast();
+        bookAtLast();
         loosedInThem();
         drawnByTen();
         drawsAround();
@@ -322,19 +323,23 @@ public final class EdgesOfTable {
         DUE.is("DINNER", x.is(0), 9998);
         DUE.is("dinner(1) anew", x.dinner(1), 0);
         DUE.is("DINNER", x.is(0), 9999);
-        // Of a LOOSED one in the last of all, DINNER in BOOK is 9998.
-        x = Due.table(0, 50);
+    }
+
+    // Promise 19 by Terms: "written down. DINNER is one more (at 9999 none can pass)."
+    private static void bookAtLast() {
+        DUE.promise(19);
+        // In the last DINNER of all 5 LOOSES: ACROSS are 2, then 3, with 0, and it sticks in 4.
+        QuiverKin x = Due.ruled(Due.table(0, 0, 0, 0, 0, 0, 0, 0, 0, 3, 0, 50), "reaches 0;bears if dinner=9998 and who=5 then 0 else 99 end;");
         for (int i = 0; i < 166; i++) {
             x.dinner(60);
         }
-        x.dinner(38);
-        x.undo();
-        x.dinner(1);
-        while (x.of(0, 1) < 50) {
-            x.reach(0);
-        }
+        DUE.is("dinner(38)", x.dinner(38), 0);
         DUE.is("dinner(1)", x.dinner(1), 1);
-        DUE.is("DINNER in BOOK", x.book(x.book(-1, 0) - 1, 0), 9998);
+        int[] due = {9998, 5, 12, 4};
+        for (int what = 0; what < 4; what++) {
+            DUE.is("book(0, " + what + ")", x.book(0, what), due[what]);
+        }
+        DUE.is("ledger(5)", x.ledger(5), 1);
     }
 
     // Promise 12: "how many are LOOSED in them"
@@ -901,6 +906,11 @@ public final class EdgesOfTable {
         DUE.is("foretold(1, 5)", x.foretold(1, 5), 1);
         DUE.is("foretold(60, 5)", x.foretold(60, 5), 60);
         DUE.is("foretold(60, 0)", x.foretold(60, 0), 0);
+        // 1, 1 and 9 are drawn first.
+        x = Due.table(2, 0, 1, 0, 9, 0);
+        DUE.is("by TEMPER 2", x.foretold(1, 0), 1);
+        DUE.is("by TEMPER 1", x.foretold(1, 1), 0);
+        DUE.is("by TEMPER 9", x.foretold(1, 2), 0);
     }
 
     // Promise 20 by Terms: "FORETOLD behind n DINNERS (1 .. 60; those that can pass)"
@@ -1018,6 +1028,11 @@ public final class EdgesOfTable {
         x.guess(-1, 0, 0);
         x.saying(-1, 0);
         x.told(-1, 0);
+        for (int i = 0; i < 8; i++) {
+            x.guess(124, 0, 0);
+            x.saying(99, 99);
+            x.told(5, 10);
+        }
         Due.text(x, "bears 99;");
         Due.ruled(x, "reaches 1;");
         x.back();
@@ -1034,7 +1049,7 @@ public final class EdgesOfTable {
             x.reach(0);
         }
         x.image();
-        for (int i = 0; i < 17; i++) {
+        for (int i = 0; i < 40; i++) {
             x.reach(0);
         }
         x.back();

@@ -16,6 +16,8 @@ public final class EdgesOfTexts {
         emptyTape();
         tapeOf300();
         textsOfFour();
+        fourLongTexts();
+        shorterText();
         faultyText();
         faultOthers();
         latestRead();
@@ -216,6 +218,42 @@ public final class EdgesOfTexts {
         DUE.is("bears", x.of(0, 5), 77);
     }
 
+    // Promise 5 by Terms: "TEXTS 0 .. 3: of up to 300 bytes. "
+    private static void fourLongTexts() {
+        DUE.promise(5);
+        QuiverKin x = Due.table(0, 0);
+        for (int i = 0; i < 4; i++) {
+            DUE.is("text() with a FAULT at its end", Due.text(x, "bears " + "1+".repeat(146) + "9+"), -1);
+            DUE.is("its place", x.fault(1), 300);
+            String text = "bears " + "1+".repeat(10 + i) + "0+".repeat(124 - i) + "if 1<2 then " + i + " else 50 end;";
+            DUE.is("bytes", text.length(), 300);
+            DUE.is("text()", Due.text(x, text), i);
+        }
+        for (int i = 3; i >= 0; i--) {
+            x.by(i);
+            DUE.is("bears by the " + i + "th", x.of(0, 5), 10 + 2 * i);
+        }
+    }
+
+    // Promise 5: "The tape (empty then) is a TEXT"
+    private static void shorterText() {
+        DUE.promise(5);
+        QuiverKin x = Due.table(0, 0);
+        Due.text(x, "strap 0;".repeat(24));
+        Due.text(x, "strap 0;".repeat(9) + "strap 6;");
+        DUE.is("six CLAUSES behind longer ones", Due.text(x, "reach 0;".repeat(6)), 1);
+        DUE.is("played", x.played(1), -1);
+        DUE.is("STEPS", x.about(3), 6);
+        DUE.is("none behind longer ones", Due.text(x, ""), 2);
+        DUE.is("played", x.played(2), -1);
+        DUE.is("STEPS", x.about(3), 6);
+        Due.text(x, "bears 7;reaches 7;");
+        Due.text(x, "");
+        x.by(2);
+        DUE.is("no law of an earlier TEXT", x.of(0, 5), 5);
+        DUE.is("no law of a later one", x.of(0, 4), 0);
+    }
+
     // Promise 5: "NONE: it has a FAULT"
     private static void faultyText() {
         DUE.promise(5);
@@ -290,8 +328,8 @@ public final class EdgesOfTexts {
         fault("bears (1", 1, 8);
         fault("bears", 1, 5);
         fault("strap 0;strap", 1, 13);
-        String long299 = "strap 0;" + " ".repeat(291);
-        fault(long299 + "!", 1, 299);
+        fault("strap 0;" + " ".repeat(291) + "!", 1, 299);
+        fault(" ".repeat(299) + "!", 1, 299);
         fault(" ".repeat(295) + "strap", 1, 300);
         fault(" ".repeat(293) + "strap 0", 1, 300);
         stands(" ".repeat(292) + "strap 0;");
@@ -758,6 +796,18 @@ public final class EdgesOfTexts {
         sum("if 9999*9999=1000*1000 then 7 else 8 end", 7);
         sum("if 1<2 or 1<2 and 2<1 then 7 else 8 end", 7);
         sum("if 2<1 and 1<2 or 2<1 then 7 else 8 end", 8);
+        for (int i = 0; i < 6; i++) {
+            for (int k = 0; k < 6; k++) {
+                for (int left = 4; left <= 6; left++) {
+                    boolean a = so[i][left - 4];
+                    boolean b = so[k][1];
+                    String asked = left + sign[i] + "5 and 5" + sign[k] + "5";
+                    sum("50+if " + asked + " then 7 else 8 end+1", a && b ? 58 : 59);
+                    sum("50+if not " + asked + " then 7 else 8 end+1", !a && b ? 58 : 59);
+                    sum("50+if not " + asked.replace("and", "or") + " then 7 else 8 end*2", !a || b ? 64 : 66);
+                }
+            }
+        }
         sum("if 1<2 then 7 else 9999*9999/0 end", 7);
         sum("if 2<1 then 9999*9999/0 else 8 end", 8);
     }

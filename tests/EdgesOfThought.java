@@ -736,6 +736,30 @@ public final class EdgesOfThought {
         DUE.is("001 and 103", x.answer(row(0, 0, 1), row(1, 0, 3)), 11);
         DUE.is("001 and 310", x.answer(row(0, 0, 1), row(3, 1, 0)), 2);
         DUE.is("else the lowest", x.ask(), row(0, 0, 1));
+        // 100, 102 and 120 fit: 100 leaves two alike, 102 none; 001, which doesn't fit, none either.
+        x = new QuiverKin();
+        x.guess(row(0, 1, 4), 0, 2);
+        x.guess(row(4, 4, 4), 0, 0);
+        x.guess(row(3, 3, 1), 0, 1);
+        DUE.is("fits", x.fits(), 3);
+        DUE.is("fit(0)", x.fit(0), row(1, 0, 0));
+        DUE.is("fit(1)", x.fit(1), row(1, 0, 2));
+        DUE.is("fit(2)", x.fit(2), row(1, 2, 0));
+        DUE.is("the second that fits", x.ask(), row(1, 0, 2));
+        // 000 and 444 fit.
+        x = new QuiverKin();
+        x.guess(row(0, 1, 4), 1, 0);
+        x.guess(row(4, 1, 0), 1, 0);
+        x.guess(row(2, 3, 1), 0, 0);
+        DUE.is("fits", x.fits(), 2);
+        DUE.is("the lowest of all", x.ask(), 0);
+        x = new QuiverKin();
+        x.guess(row(2, 1, 0), 0, 0);
+        x.guess(row(4, 4, 0), 2, 0);
+        x.guess(row(1, 0, 0), 0, 0);
+        x.guess(row(0, 0, 0), 0, 0);
+        DUE.is("fits", x.fits(), 2);
+        DUE.is("the last but one", x.ask(), 123);
     }
 
     // ---- 35 to 37: two who wait
@@ -1072,5 +1096,7 @@ public final class EdgesOfThought {
         // Of 51: the row can be bitten to 21, at column 2.
         bites(51000, 0, 2);
         bites(21111, 2, 0);
+        // 4111 is without any, and nothing else brings one there.
+        bites(41111, 4, 0);
     }
 }
