@@ -1,3 +1,6 @@
+import java.util.ArrayList;
+import java.util.List;
+
 /** Promises 21 to 42: seatings, the garden, guesses, two who wait, sayings, how near, the game of bites. */
 public final class PromisesOfThought {
     private static final Due DUE = new Due();
@@ -319,18 +322,18 @@ public final class PromisesOfThought {
         askedWell(x);
         x.guess(row(0, 0, 0), 3, 0);
         DUE.is("one fits", x.ask(), -1);
-        x.guess(-1, 0, 0);
+        x = new QuiverKin();
         x.guess(row(0, 0, 0), 2, 0);
         x.guess(row(0, 0, 1), 2, 0);
         x.guess(row(0, 0, 2), 2, 0);
         // 003 and 004 fit; each tells them apart, and the lowest that does fits not: a ROW that fits goes ahead.
         DUE.is("fits", x.fits(), 2);
         DUE.is("the lowest that fits", x.ask(), row(0, 0, 3));
-        x.guess(-1, 0, 0);
+        x = new QuiverKin();
         x.guess(row(0, 0, 0), 2, 0);
         DUE.is("fits", x.fits(), 12);
         // 000 itself can't be, but it would leave all 12; 012 leaves 4 at most, by 10, 11, 20 and so on.
-        DUE.is("the most alike", most(x, x.ask()), 4);
+        DUE.is("the most alike", most(fitting(x), x.ask()), 4);
         askedWell(x);
         x.guess(row(0, 0, 1), 1, 2);
         x.guess(-1, 0, 0);
@@ -338,7 +341,7 @@ public final class PromisesOfThought {
         DUE.is("201 and 120 fit", x.fits(), 2);
         DUE.is("the lowest that fits", x.ask(), row(1, 2, 0));
         for (int first = 0; first < 125; first += 6) {
-            x.guess(-1, 0, 0);
+            x = new QuiverKin();
             x.guess(first, 1, 0);
             askedWell(x);
             x.guess(124 - first, 0, 1);
@@ -346,37 +349,39 @@ public final class PromisesOfThought {
         }
     }
 
-    private static boolean fits(QuiverKin x, int row) {
-        for (int i = 0; i < x.fits(); i++) {
-            if (x.fit(i) == row) {
-                return true;
-            }
+    private static List<Integer> fitting(QuiverKin x) {
+        List<Integer> rows = new ArrayList<>();
+        int fits = x.fits();
+        for (int i = 0; i < fits; i++) {
+            rows.add(x.fit(i));
         }
-        return false;
+        return rows;
     }
 
     /** That no ROW leaves fewer, and of like ones none that should go ahead does. */
     private static void askedWell(QuiverKin x) {
         int asked = x.ask();
-        if (x.fits() < 2) {
+        List<Integer> fitting = fitting(x);
+        if (fitting.size() < 2) {
             DUE.is("one fits, or none", asked, -1);
             return;
         }
-        int most = most(x, asked);
-        boolean askedFits = fits(x, asked);
+        int most = most(fitting, asked);
+        boolean askedFits = fitting.contains(asked);
         for (int row = 0; row < 125; row++) {
-            boolean ahead = askedFits ? row < asked && fits(x, row) : row < asked || fits(x, row);
-            DUE.is("ask() is " + asked + " but " + row, most(x, row) < most || ahead && most(x, row) == most, false);
+            boolean ahead = askedFits ? row < asked && fitting.contains(row) : row < asked || fitting.contains(row);
+            int there = most(fitting, row);
+            DUE.is("ask() is " + asked + " but " + row, there < most || ahead && there == most, false);
         }
     }
 
-    /** How many of those that fit are alike at most by the ANSWER to a ROW. */
-    private static int most(QuiverKin x, int row) {
+    /** How many of these are alike at most by the ANSWER to a ROW. */
+    private static int most(List<Integer> fitting, int row) {
+        QuiverKin x = new QuiverKin();
         int[] alike = new int[40];
         int most = 0;
-        int fits = x.fits();
-        for (int i = 0; i < fits; i++) {
-            int n = ++alike[x.answer(row, x.fit(i))];
+        for (int real : fitting) {
+            int n = ++alike[x.answer(row, real)];
             most = Math.max(most, n);
         }
         return most;
@@ -578,7 +583,6 @@ public final class PromisesOfThought {
 
     /** Every shape by search: a bite is the first that leaves the other one without any. */
     private static void allBites() {
-        QuiverKin x = new QuiverKin();
         boolean[] wins = new boolean[55556];
         for (int shape = 1; shape <= 55555; shape++) {
             if (!falls(shape)) {
@@ -592,6 +596,7 @@ public final class PromisesOfThought {
                 }
             }
             wins[shape] = due >= 0;
+            QuiverKin x = new QuiverKin();
             DUE.is("bite(" + shape + ", true)", x.bite(shape, true), due < 0 ? -1 : due / 5);
             DUE.is("bite(" + shape + ", false)", x.bite(shape, false), due < 0 ? -1 : due % 5);
         }
