@@ -459,9 +459,12 @@ public final class EdgesOfTable {
     private static void reachedToNinetyNine() {
         DUE.promise(12);
         QuiverKin x = Due.ruled(Due.table(0, 97), "reaches 10;bears 99;");
+        int drawn = 421;
         for (int due : new int[] {98, 99, 99}) {
             x.dinner(1);
+            drawn = next(drawn);
             DUE.is("KEPT", x.of(0, 1), due);
+            DUE.is("a draw at 99, too: X", x.is(1), drawn);
         }
     }
 
@@ -970,6 +973,10 @@ public final class EdgesOfTable {
         DUE.is("all with 99", Due.table(0, 99, 0, 99, 0, 99, 0, 99, 0, 99, 0, 99).calm(), 0);
         DUE.is("the last with 0", Due.table(0, 1, 0, 1, 0, 1, 0, 1, 0, 1, 0, 0).calm(), 32);
         DUE.is("the last with 1", Due.table(0, 0, 0, 0, 0, 0, 0, 0, 0, 0, 0, 1).calm(), 31);
+        QuiverKin x = Due.table(0, 0, 0, 1, 0, 0);
+        x.strap(0);
+        x.strap(1);
+        DUE.is("STRAPPED ones, too", x.calm(), 5);
     }
 
     // Promise 47: "BY THE BOOK. -2 for others."

@@ -341,6 +341,11 @@ public final class EdgesOfThought {
         mends(x, 0, 5, 0);
         x.swap(0, 5);
         mends(x, -1, -1, -1);
+        // 3 1 2 0 4 5: it goes by who they are, not by where they sit; 0 with 1 or with 2 leaves 0 beside 2.
+        x = table(6);
+        x.swap(0, 3);
+        x.spite(0, 2, 5);
+        mends(x, 0, 3, 0);
     }
 
     // ---- 27 to 29: THE GARDEN
@@ -516,6 +521,17 @@ public final class EdgesOfThought {
         flies(x, 7, 1, 5, 1, 3, 0);
         x.hedge(7, 1);
         DUE.is("on and on", x.flight(7, 1, 0), -1);
+        // Back by the very WAY it began by: to begin there was not to come there, so it isn't for ever by that alone.
+        x = new QuiverKin();
+        turn(x, new int[] {8, 12}, 2);
+        turn(x, new int[] {14, 6}, 1);
+        DUE.is("nothing in 7: on and on", x.flight(7, 1, 0), -1);
+        x.hedge(7, 1);
+        flies(x, 7, 1, 7, 1, 5, 0);
+        x.hedge(7, 2);
+        flies(x, 7, 1, 10, 31, 5, 2);
+        x.hedge(7, 3);
+        flies(x, 7, 1, 6, 7, 4, 1);
     }
 
     // Promise 29 by Terms: "of CELLS at the rim with the WAY inwards (up from the lowest row, right from the left column, ..) from which a FLIGHT ends in
@@ -574,6 +590,13 @@ public final class EdgesOfThought {
         DUE.is("flight from 32", x.flight(32, 0, 1), 0);
         DUE.is("flight from 30", x.flight(30, 0, 1), 0);
         DUE.is("the lower CELL", x.comes(0, 0), 30);
+        // From 0 to the right, or from 33 up, left from 27, up from 24 and turned in 0: the lower WAY, though of a higher CELL.
+        x = new QuiverKin();
+        turn(x, new int[] {27, 24}, 2);
+        x.hedge(0, 1);
+        DUE.is("the lower WAY", x.comes(5, 1), 33);
+        x.hedge(12, 3);
+        DUE.is("the other one", x.comes(5, 1), 36);
         x = new QuiverKin();
         x.hedge(5, 3);
         DUE.is("a tree in a corner, to the right", x.comes(5, 1), 36);

@@ -14,7 +14,7 @@ final class Due {
         asked++;
         if (got != want) {
             wrong++;
-            System.out.println("promise " + promise + ": " + what + " answered " + got + ", due is " + want);
+            System.out.println(where() + what + " answered " + got + ", due is " + want);
         }
     }
 
@@ -29,9 +29,13 @@ final class Due {
             asked++;
             if (!got.get(i).equals(want.get(i))) {
                 wrong++;
-                System.out.println("promise " + promise + ": " + what + ": " + got.get(i) + ", due is " + want.get(i));
+                System.out.println(where() + what + ": " + got.get(i) + ", due is " + want.get(i));
             }
         }
+    }
+
+    private String where() {
+        return promise == 0 ? "" : "promise " + promise + ": ";
     }
 
     void end(String test) {

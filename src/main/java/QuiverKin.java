@@ -1236,7 +1236,7 @@ public final class QuiverKin {
             for (int i = 0; i <= MOST_BYTES && fault == 0 && kind() != Kind.LAST; i++) {
                 readClause(openClause());
             }
-            if (fault != 0 || codeLength < 0 || clauseCount < 0) {
+            if (fault != 0 || !within(clauseCount, 0, MOST_CLAUSES) || !within(codeLength, 0, code.length)) {
                 return null;
             }
             return new Text(Arrays.copyOf(clauses, 3 * clauseCount), Arrays.copyOf(code, codeLength), reachesAt, bearsAt);
