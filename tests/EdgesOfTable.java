@@ -914,6 +914,23 @@ public final class EdgesOfTable {
         DUE.is("by TEMPER 2", x.foretold(1, 0), 1);
         DUE.is("by TEMPER 1", x.foretold(1, 1), 0);
         DUE.is("by TEMPER 9", x.foretold(1, 2), 0);
+        // As all is now: BOOK, X and who is STRAPPED, too, of one that is no longer at its first DINNER.
+        x = Full.house(6);
+        x.dinner(7);
+        int[] foretold = new int[6];
+        for (int kin = 0; kin < 6; kin++) {
+            foretold[kin] = x.foretold(9, kin);
+        }
+        x.dinner(9);
+        for (int kin = 0; kin < 6; kin++) {
+            DUE.is("behind nine more, KEPT of " + kin, foretold[kin], x.of(kin, 1));
+        }
+        // Nothing is left of one for whom it was foretold before.
+        x = Due.table(9, 5);
+        x.foretold(60, 0);
+        x.back();
+        x.kin(0, 5);
+        DUE.is("another one, of TEMPER 0", x.foretold(60, 0), 5);
     }
 
     // Promise 20 by Terms: "FORETOLD behind n DINNERS (1 .. 60; those that can pass)"

@@ -944,6 +944,9 @@ public final class EdgesOfTexts {
         DUE.is("nothing TOLD", x.whose(), 15);
         x.by(3);
         DUE.is("whatever rules", x.whose(), 15);
+        x.strap(0);
+        x.told(0, 8);
+        DUE.is("of one who is STRAPPED, likewise", x.whose(), 0);
         QuiverKin y = Due.table(0, 0);
         Due.text(y, "reaches 11;");
         Due.text(y, "reaches 10;");

@@ -281,6 +281,17 @@ public final class EdgesOfThought {
         DUE.is("not beside", x.spiteNow(), 0);
         x.swap(0, 1);
         DUE.is("beside again", x.spiteNow(), 7);
+        // 1 2 0 3 4 5: three have gone on by a SEAT, so that who is at a SEAT isn't the SEAT of that one.
+        x = table(6);
+        x.swap(0, 1);
+        x.swap(0, 2);
+        x.spite(0, 2, 1);
+        x.spite(0, 1, 2);
+        x.spite(1, 2, 4);
+        x.spite(0, 3, 8);
+        x.spite(1, 3, 16);
+        x.spite(2, 3, 32);
+        DUE.is("by who is at each SEAT", x.spiteNow(), 4 + 1 + 8);
     }
 
     private static void mends(QuiverKin x, int low, int high, int spite) {
